@@ -795,7 +795,7 @@ public final class OneADay {
         final int[] offset = new int[MOST_VILLAGES];
 
         boolean find(Rock rock, int set) {
-            return comesOften(rock, set) && place(rock, set, 0);
+            return comesOften(rock, set) && canPassEachOther(rock, set) && place(rock, set, 0);
         }
 
         /** Of villages that never meet just one comes each day if and only if as many come in a round as it has days. */
@@ -805,6 +805,17 @@ public final class OneADay {
                 if ((set >> v & 1) != 0) visits += ROUND / rock.periodOf(v);
             }
             return visits == ROUND;
+        }
+
+        /** Two periods without a common divisor meet by any offsets: no search is needed then. */
+        private static boolean canPassEachOther(Rock rock, int set) {
+            for (int v = 0; v < rock.villages && v < MOST_VILLAGES; v++) {
+                for (int u = 0; u < v; u++) {
+                    boolean both = (set >> u & 1) != 0 && (set >> v & 1) != 0;
+                    if (both && commonDivisor(rock.periodOf(u), rock.periodOf(v)) == 1) return false;
+                }
+            }
+            return true;
         }
 
         private boolean place(Rock rock, int set, int v) {
