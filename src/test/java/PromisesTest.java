@@ -221,8 +221,10 @@ public final class PromisesTest {
     }
 
     private void rockBegins() {
-        OneADay x = rockOf(CROWD);
-        x.day(3);
+        String crowd = "h2 0 1;v0 2 0 0;v2 2 0 0;v3 2 1 0;f4;";
+        OneADay x = rockOf(crowd);
+        x.day(9);
+        c.holds("3: some wait, some went home", x.told(14) > 0 && x.told(15) > 0 && x.told(13) > 0 && x.told(12) > 0);
         x.see(1, 1);
         x.write(0, 0);
         x.seed(77);
@@ -230,7 +232,7 @@ public final class PromisesTest {
         x.keep(0);
         x.keep(1);
         x.calendar(2, 0);
-        Check.feedAll(x, CROWD);
+        Check.feedAll(x, crowd);
         c.due("3: a rock again", x.rock(), 3);
         for (int what = 7; what <= 18; what++) c.due("3: rock anew, told " + what, x.told(what), 0);
         c.due("3: nobody blessed", x.blessed(0), NONE);
@@ -246,6 +248,26 @@ public final class PromisesTest {
         c.due("3: takes the villages", x.told(3), 0);
         c.due("3: takes K", x.told(0), 0);
         c.due("3: takes I", x.told(2), 0);
+        OneADay y = rockOf("h1 0 0;v0 1 0 0;v0 1 0 0;");
+        y.day(3);
+        c.due("3: failed days", y.told(11), 3);
+        Check.feedAll(y, "h9 30 9;f1;f2;g3;g4;v1 9 0 0;");
+        y.rock();
+        Check.feedAll(y, "h9 30 9;f1;f2;g3;g4;v1 9 0 0;x");
+        y.rock();
+        for (int i = 0; i < 2; i++) {
+            Check.feedAll(y, "h1 0 0;v1 5 3 0;");
+            y.rock();
+            int[] told = {1, 0, 0, 1, 0, 0};
+            for (int what = 0; what < told.length; what++) c.due("3: nothing of the rock before, " + what, y.told(what), told[what]);
+            c.due("3: no failed days", y.told(11), 0);
+            c.due("3: no feast of the rock before", y.comes(1), 0);
+            c.due("3: no fog of the rock before", y.comes(3), 1);
+        }
+        Check.feedAll(y, "h1 0 0;f1;f2;g3;v1 5 0 0;");
+        c.due("3: days of the rock before can be told again", y.rock(), 1);
+        y.rock();
+        c.due("3: takes Y", y.told(1), 0);
     }
 
     private void rockWithFaultKeeps() {
@@ -369,6 +391,10 @@ public final class PromisesTest {
         c.due("8: the 60th again", y.blessed(1), 0);
         c.due("8: the latest", y.blessed(60), 0);
         c.due("8: one more than the latest", y.blessed(61), NONE);
+        OneADay z = rockOf("h9 0 0;v0 7 0 0;");
+        z.day(61);
+        c.due("8: nobody where one was 60 days before", z.blessed(60), NONE);
+        c.due("8: one where nobody was 60 days before", z.blessed(56), 0);
     }
 
     // ---- promise 9
@@ -455,6 +481,10 @@ public final class PromisesTest {
         c.due("9: refused is not undone", x.undo(), 19);
         c.due("9: undone", x.told(7), 9000);
         c.due("11: drift at 9000", x.drift(99), 9099);
+        x.undo();
+        c.due("9: to 9001", x.day(1), 9001);
+        c.due("9: 9001 is above 9000", x.day(1), FULL);
+        c.due("11: 9001 is above 9000", x.drift(1), FULL);
         OneADay y = down();
         c.due("9: OUTSIDE is ahead of NOT", y.day(100), OUTSIDE);
         c.due("11: OUTSIDE is ahead of NOT", y.drift(100), OUTSIDE);
@@ -514,6 +544,15 @@ public final class PromisesTest {
         c.due("11: refused draws nothing", y.seed(0), 0);
         c.due("11: one to undo", y.undo(), 0);
         c.due("11: as ahead of it", y.told(7), 0);
+        OneADay z = rockOf("h9 0 0;v0 9 0 0;v0 1 0 0;");
+        z.calendar(1, NONE);
+        OneADay w = rockOf("h9 0 0;v0 9 0 0;");
+        // the seed 0 becomes 12345, whose draw of 4 is 0; then come 1406932606 (a draw of 1) and 654583775
+        z.drift(1);
+        w.drift(1);
+        c.due("11: of two villages the first", z.village(0, 2), 654583775 / 65536 % 9 * ((1406932606 / 65536 + 1) % 2));
+        c.due("11: a village alone", w.village(0, 2), 654583775 / 65536 % 9);
+        c.due("11: three draws", w.seed(0), 654583775);
     }
 
     // ---- promise 12
@@ -550,6 +589,22 @@ public final class PromisesTest {
         y.undo();
         c.due("12: he goes up again", y.told(9), 0);
         c.due("12: and waits anew", y.told(8), 0);
+        OneADay z = rockOf("h9 0 9;v0 9 0 0;v0 9 0 0;v0 9 0 0;v0 9 1 0;");
+        z.day(1);
+        z.keep(0);
+        z.day(3);
+        c.due("12: of the row 1, 2, 3", z.blessed(3), 3);
+        z.undo();
+        z.day(1);
+        c.due("12: the row, too, is as ahead of it", z.blessed(1), 1);
+        z.day(2);
+        c.due("12: to its end", z.blessed(3), 3);
+        z.goBack(0);
+        z.day(2);
+        c.due("28: the row, too, is kept", z.blessed(2), 2);
+        z.goBack(0);
+        c.due("13: the row, too, goes on", z.whenDown(), NONE);
+        c.due("14: the row, too, goes on", z.ahead(9, 0), 5);
     }
 
     /** All of section 2 that can be asked for. */
@@ -631,6 +686,11 @@ public final class PromisesTest {
         x.calendar(0, NONE);
         c.due("15: who stays now is of the set", x.certain(7, 0), 0);
         c.due("15: nothing changes", x.village(0, 4), 1);
+        OneADay y = rockOf("h9 0 0;v0 5 0 0;v0 2 0 0;v0 3 0 0;v0 4 0 0;v0 7 0 0;v0 4 0 0;v0 1 0 0;");
+        int[] some = {NONE, 0, NONE, 1, NONE, 3, NONE};
+        for (int v = 0; v < 7; v++) c.due("15: of 42, " + v, y.certain(42, v), some[v]);
+        c.due("15: of 64", y.certain(64, 6), 0);
+        c.due("15: of 64, 0", y.certain(64, 0), NONE);
         covers("4 4 2", 0, 2, 1);
         covers("6 6 6 4 4", 0, 2, 4, 1, 3);
         covers("9 9 9 9 9 9 3", 0, 1, 3, 4, 6, 7, 2);
@@ -763,6 +823,25 @@ public final class PromisesTest {
         u.day(1);
         c.due("19: blessed ahead of now is of no matter", u.feet(1, NONE), 0);
         c.due("19: when he is down, too", down().feet(3, NONE), 0);
+        OneADay t = rockOf("h9 2 0;v9 1 0 0;v0 9 0 0;v1 9 0 0;v1 1 0 0;g2;g12;");
+        t.day(10);
+        c.due("19: fog from now on", t.feet(3, NONE), 4);
+        int[] later = {2, 3, 1};
+        for (int i = 0; i < 3; i++) c.due("19: fog from now on, " + i, t.feet(3, i), later[i]);
+        t.day(1);
+        c.due("19: the fog of tomorrow", t.feet(2, NONE), 2);
+        t.day(1);
+        c.due("19: the fog of today", t.feet(2, 0), 1);
+        t.day(1);
+        c.due("19: behind the fog", t.feet(2, 0), 1);
+        OneADay s = rockOf("h9 0 0;v4 1 0 0;v3 1 0 0;v3 1 0 0;");
+        c.due("19: without a year the nearest", s.feet(10, NONE), 60);
+        for (int i = 0; i < 10; i++) c.due("19: without a year the lesser, " + i, s.feet(10, i), 1);
+        OneADay r = rockOf("h9 4 0;v9 1 0 0;v1 1 0 0;v8 1 0 0;v2 1 0 0;v7 1 0 0;v3 1 0 0;");
+        // five a round: 1, 2, 3, 7, 8; the two nearest go twice
+        c.due("19: a round and two", r.feet(7, NONE), 48);
+        int[] round = {1, 3, 2, 4, 5, 1, 3};
+        for (int i = 0; i < 7; i++) c.due("19: a round and two, " + i, r.feet(7, i), round[i]);
     }
 
     // ---- promise 20
@@ -839,6 +918,10 @@ public final class PromisesTest {
         c.due("22: by a feast both", y.went(1, 0), 3);
         c.due("22: parted behind the feasts", y.went(1, 1), 11);
         c.due("22: two on each day are not parted", rockOf("h9 0 0;v0 1 0 0;v0 1 0 0;v0 2 0 0;").went(2, 1), NONE);
+        String hidden = "h9 0 0;v1 1 0 0;v1 1 0 0;v0 2 0 0;";
+        c.due("22: parted on day 0", rockOf(hidden).went(2, 1), 0);
+        c.due("22: parted on day 99", rockOf(hidden + "f0;g99;").went(2, 1), 99);
+        c.due("22: parted on day 100 alone", rockOf(hidden + "f0;g100;").went(2, 1), NONE);
     }
 
     // ---- promise 23
