@@ -795,7 +795,7 @@ public final class OneADay {
         final int[] offset = new int[MOST_VILLAGES];
 
         boolean find(Rock rock, int set) {
-            return comesOften(rock, set) && canPassEachOther(rock, set) && place(rock, set, 0);
+            return comesOften(rock, set) && canPassEachOther(rock, set) && place(rock, set, 0, offset);
         }
 
         /** Of villages that never meet just one comes each day if and only if as many come in a round as it has days. */
@@ -818,22 +818,23 @@ public final class OneADay {
             return true;
         }
 
-        private boolean place(Rock rock, int set, int v) {
-            if (v < 0 || v >= rock.villages || v >= offset.length) return true;
-            if ((set >> v & 1) == 0) return place(rock, set, v + 1);
+        /** Offsets for the villages from v on, by those that stand in 'placed' for the ones before it. */
+        private static boolean place(Rock rock, int set, int v, int[] placed) {
+            if (v < 0 || v >= rock.villages || v >= placed.length) return true;
+            if ((set >> v & 1) == 0) return place(rock, set, v + 1, placed);
             for (int o = 0; o < rock.periodOf(v); o++) {
-                if (meetsOneBefore(rock, set, v, o)) continue;
-                offset[v] = o;
-                if (place(rock, set, v + 1)) return true;
+                if (meetsOneBefore(rock, set, v, o, placed)) continue;
+                placed[v] = o;
+                if (place(rock, set, v + 1, placed)) return true;
             }
             return false;
         }
 
-        private boolean meetsOneBefore(Rock rock, int set, int v, int o) {
-            for (int u = 0; u < v && u < offset.length; u++) {
+        private static boolean meetsOneBefore(Rock rock, int set, int v, int o, int[] placed) {
+            for (int u = 0; u < v && u < placed.length; u++) {
                 if ((set >> u & 1) == 0) continue;
                 int common = commonDivisor(rock.periodOf(u), rock.periodOf(v));
-                if ((o - offset[u]) % common == 0) return true;
+                if ((o - placed[u]) % common == 0) return true;
             }
             return false;
         }
@@ -903,7 +904,8 @@ public final class OneADay {
 
         /**
          * The least feet from day k on. Of two free villages that may go on the same days the nearer one can always go
-         * first (their later days can be swapped), so only whether a road of 0 is saved for a later fog is tried.
+         * first: swap the two from day k on, up to where the nearer one would have gone more often (it goes twice there
+         * without the other between, so a year parts both sides). Only whether a road of 0 is saved for a fog is tried.
          */
         private int leastFrom(Rock rock, int k) {
             if (k < 0 || k >= length || k >= chosen.length) return 0;

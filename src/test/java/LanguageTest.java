@@ -6,7 +6,10 @@ import java.lang.reflect.Modifier;
 import java.nio.file.Files;
 import java.nio.file.Path;
 import java.util.Arrays;
+import java.util.HashSet;
+import java.util.Map;
 import java.util.Set;
+import java.util.TreeMap;
 import java.util.TreeSet;
 import java.util.regex.Matcher;
 import java.util.regex.Pattern;
@@ -32,6 +35,7 @@ public final class LanguageTest {
         test.words();
         test.library();
         test.lengths();
+        test.calls();
         test.c.end();
     }
 
@@ -118,5 +122,38 @@ public final class LanguageTest {
             many++;
         }
         c.holds("methods were found: " + many, many > 60);
+    }
+
+    /** Methods of one name are taken for one: the way through them can only be found longer by that. */
+    private void calls() {
+        Map<String, Set<String>> called = new TreeMap<>();
+        Map<String, String> heads = new TreeMap<>();
+        Matcher head = Pattern.compile("(?m)^( +)([\\w\\[\\] ]*\\b(\\w+)\\([^;{]*\\)) \\{\n").matcher(code);
+        while (head.find()) {
+            String name = head.group(3);
+            if (name.equals("if") || name.equals("for") || name.equals("while") || name.equals("switch")) continue;
+            int end = code.indexOf("\n" + head.group(1) + "}", head.end() - 1);
+            Matcher call = Pattern.compile("\\b(\\w+)\\(").matcher(code.substring(head.end(), end < 0 ? code.length() : end));
+            heads.put(name, head.group(2));
+            Set<String> names = called.computeIfAbsent(name, key -> new TreeSet<>());
+            while (call.find()) names.add(call.group(1));
+        }
+        for (String name : called.keySet()) {
+            boolean itself = called.get(name).contains(name);
+            c.holds("8: who calls itself is private static: " + name, !itself || heads.get(name).startsWith("private static "));
+        }
+        for (String row : FACE) {
+            String name = row.substring(0, row.indexOf(' '));
+            int deep = depth(called, name, new HashSet<>());
+            c.holds("11: calls at most eight deep: " + name + " goes " + deep, called.containsKey(name) && deep <= 8);
+        }
+    }
+
+    private static int depth(Map<String, Set<String>> called, String name, Set<String> open) {
+        if (!called.containsKey(name) || !open.add(name)) return 0;
+        int most = 0;
+        for (String next : called.get(name)) most = Math.max(most, depth(called, next, open));
+        open.remove(name);
+        return most + 1;
     }
 }
